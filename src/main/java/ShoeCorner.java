@@ -17,22 +17,20 @@ public final class ShoeCorner {
 
     // One text more than may be told: the place at textCount is always free to read the tape into.
     private final Text[] texts = new Text[MOST_TEXTS + 1];
-    private final byte[] tape = new byte[TAPE_BYTES];
-    private final Reader reader = new Reader(tape);
-    private final Street now = new Street(texts);
-    private final Street image = new Street(texts);
-    private final Street thought = new Street(texts);
+    private final Tape tape = new Tape();
+    private final Street now = new Street();
+    private final Street image = new Street();
+    private final Street thought = new Street();
     private final Sheet[] sheets = new Sheet[SHEETS];
     private final Slot[] slots = new Slot[SLOTS];
     private final int[] waiting = new int[MOST_WAITING];
     private int waitingCount = 0;
-    private int tapeCount = 0;
     private boolean imageKept = false;
 
     public ShoeCorner() {
         int[] stack = new int[TAPE_BYTES];
         for (int i = 0; i < texts.length; i++) {
-            texts[i] = new Text(stack);
+            texts[i] = new Text(i, stack);
         }
         for (int i = 0; i < sheets.length; i++) {
             sheets[i] = new Sheet();
@@ -293,39 +291,35 @@ public final class ShoeCorner {
     // ---- texts
 
     public int feed(int a, int b, int c) {
-        if (tapeCount + FED_BYTES > TAPE_BYTES) {
+        if (tape.count + FED_BYTES > TAPE_BYTES) {
             return FULL;
         }
-        feedNumber(a);
-        feedNumber(b);
-        feedNumber(c);
-        return tapeCount;
+        tape.addNumber(a);
+        tape.addNumber(b);
+        tape.addNumber(c);
+        return tape.count;
     }
 
     public int trim(int n) {
-        if (n < 0 || n > tapeCount) {
+        if (n < 0 || n > tape.count) {
             return BAD;
         }
-        tapeCount = n;
+        tape.count = n;
         return n;
     }
 
     public int text() {
-        int bytes = tapeCount;
-        tapeCount = 0;
-        int number = now.textCount;
-        if (number < 0 || number >= texts.length) {
-            return FULL;
-        }
-        int fault = reader.read(texts[number], bytes);
+        // It is at most MOST_TEXTS, and texts has one place more.
+        Text free = texts[Math.min(now.textCount, MOST_TEXTS)];
+        int fault = tape.useUp(free);
         if (fault >= 0) {
             return -100 - fault;
         }
-        if (number >= MOST_TEXTS) {
+        if (now.textCount >= MOST_TEXTS) {
             return FULL;
         }
-        now.countText(texts[number].key);
-        return number;
+        now.countText(free);
+        return free.number;
     }
 
     public int textTold(int text, int what) {
@@ -339,8 +333,8 @@ public final class ShoeCorner {
         if (key < 0 || key >= KEYS) {
             return BAD;
         }
-        int last = now.lastTexts[key];
-        return last < 0 ? NONE : last;
+        Text law = now.law(key);
+        return law == null ? NONE : law.number;
     }
 
     // ---- sheets, slots
@@ -562,7 +556,7 @@ public final class ShoeCorner {
             case 4: return now.wet ? 1 : 0;
             case 5: return now.textCount;
             case 6: return waitingCount;
-            case 7: return tapeCount;
+            case 7: return tape.count;
             case 8: return now.z;
             default: return BAD;
         }
@@ -596,15 +590,6 @@ public final class ShoeCorner {
             }
         }
         return sum;
-    }
-
-    private void feedNumber(int number) {
-        for (int shift = 24; shift >= 0; shift -= 8) {
-            if (tapeCount < tape.length) {
-                tape[tapeCount] = (byte) (number >> shift);
-                tapeCount++;
-            }
-        }
     }
 
     private boolean waits(int index, int told, int due) {
@@ -741,9 +726,9 @@ public final class ShoeCorner {
 
     /** All that an image keeps: the street as it is, as it was kept, or as it is thought. */
     private static final class Street {
-        final Text[] texts;
         final Boy[] boys = new Boy[MOST_BOYS];
-        final int[] lastTexts = new int[KEYS];
+        // The text that counts for each key, null where there is none; a text that is told never changes.
+        private final Text[] laws = new Text[KEYS];
         int boyCount = 0;
         int textCount = 0;
         int share = 0;
@@ -756,13 +741,9 @@ public final class ShoeCorner {
         // The boy that no man goes to, in thought alone.
         int away = -1;
 
-        Street(Text[] texts) {
-            this.texts = texts;
+        Street() {
             for (int i = 0; i < boys.length; i++) {
                 boys[i] = new Boy();
-            }
-            for (int i = 0; i < lastTexts.length; i++) {
-                lastTexts[i] = -1;
             }
         }
 
@@ -781,7 +762,7 @@ public final class ShoeCorner {
                 boys[i].become(other.boys[i]);
             }
             for (int i = 0; i < KEYS; i++) {
-                lastTexts[i] = other.lastTexts[i];
+                laws[i] = other.laws[i];
             }
         }
 
@@ -800,17 +781,16 @@ public final class ShoeCorner {
             addBoy(kind, place, price, rubs);
         }
 
-        void countText(int key) {
-            if (key >= 0 && key < lastTexts.length) {
-                lastTexts[key] = textCount;
+        void countText(Text text) {
+            if (text.key >= 0 && text.key < laws.length) {
+                laws[text.key] = text;
                 textCount++;
             }
         }
 
         /** The text that counts for a key, or null. */
         Text law(int key) {
-            int last = key >= 0 && key < lastTexts.length ? lastTexts[key] : -1;
-            return last >= 0 && last < texts.length ? texts[last] : null;
+            return key >= 0 && key < laws.length ? laws[key] : null;
         }
 
         int shineOf(Boy boy, int r, int d) {
@@ -940,6 +920,7 @@ public final class ShoeCorner {
     private static final class Text {
         // Items: 0 .. 9999 a number, below 0 a name, from SIGNS on a sign.
         private static final int SIGNS = 10000;
+        final int number;
         int key = OF_SHINE;
         int operands = 0;
         private int size = 0;
@@ -947,7 +928,8 @@ public final class ShoeCorner {
         // One stack serves all texts: none is worked out within another.
         private final int[] stack;
 
-        Text(int[] stack) {
+        Text(int number, int[] stack) {
+            this.number = number;
             this.stack = stack;
         }
 
@@ -1029,25 +1011,36 @@ public final class ShoeCorner {
         }
     }
 
-    /** Reads the tape into a text, word by word. */
-    private static final class Reader {
+    /** The bytes that wait to become a text, and how they are read, word by word. */
+    private static final class Tape {
         private static final int END = 0, WORD = 1, NUMBER = 2, SIGN = 3, GLUED = 4;
         private static final int LOOSEST = 0, TEST = 2, TIGHTEST = 4;
         private static final int MOST_NESTED = 8, MOST_DIGITS = 4;
-        private final byte[] tape;
+        int count = 0;
+        private final byte[] bytes = new byte[TAPE_BYTES];
         private int end = 0;
         // The word or sign that is read next stands at start and ends ahead of at.
         private int token = END;
         private int start = 0;
         private int at = 0;
 
-        Reader(byte[] tape) {
-            this.tape = tape;
+        Tape() {
         }
 
-        /** The place of the fault, or -1. */
-        int read(Text text, int bytes) {
-            end = Math.max(0, Math.min(bytes, tape.length));
+        /** The highest byte first. */
+        void addNumber(int number) {
+            for (int shift = 24; shift >= 0; shift -= 8) {
+                if (count < bytes.length) {
+                    bytes[count] = (byte) (number >> shift);
+                    count++;
+                }
+            }
+        }
+
+        /** Reads all bytes into the text, and none is left: the place of the fault, or -1. */
+        int useUp(Text text) {
+            end = count;
+            count = 0;
             at = 0;
             step();
             int key = keyRead();
@@ -1077,7 +1070,7 @@ public final class ShoeCorner {
                 return false;
             }
             for (int i = 0; i < word.length(); i++) {
-                if (tape[start + i] != word.charAt(i)) {
+                if (bytes[start + i] != word.charAt(i)) {
                     return false;
                 }
             }
@@ -1151,7 +1144,7 @@ public final class ShoeCorner {
             }
             int number = 0;
             for (int i = start; i < at; i++) {
-                number = 10 * number + tape[i] - '0';
+                number = 10 * number + bytes[i] - '0';
             }
             text.addNumber(number);
             step();
@@ -1159,7 +1152,7 @@ public final class ShoeCorner {
         }
 
         private boolean name(Text text) {
-            if (at - start != 1 || !text.addName((char) tape[start])) {
+            if (at - start != 1 || !text.addName((char) bytes[start])) {
                 return false;
             }
             step();
@@ -1171,12 +1164,12 @@ public final class ShoeCorner {
         }
 
         private int sign() {
-            return start < end ? tape[start] : 0;
+            return start < end ? bytes[start] : 0;
         }
 
         /** Goes on to the next word or sign. */
         private void step() {
-            while (at < end && tape[at] == ' ') {
+            while (at < end && bytes[at] == ' ') {
                 at++;
             }
             start = at;
@@ -1184,21 +1177,21 @@ public final class ShoeCorner {
                 token = END;
                 return;
             }
-            if (isLetter(tape[at])) {
+            if (isLetter(bytes[at])) {
                 token = WORD;
-                while (at < end && isLetter(tape[at])) {
+                while (at < end && isLetter(bytes[at])) {
                     at++;
                 }
-            } else if (isDigit(tape[at])) {
+            } else if (isDigit(bytes[at])) {
                 token = NUMBER;
-                while (at < end && isDigit(tape[at])) {
+                while (at < end && isDigit(bytes[at])) {
                     at++;
                 }
             } else {
                 token = SIGN;
                 at++;
             }
-            if (token != SIGN && start > 0 && (isLetter(tape[start - 1]) || isDigit(tape[start - 1]))) {
+            if (token != SIGN && start > 0 && (isLetter(bytes[start - 1]) || isDigit(bytes[start - 1]))) {
                 token = GLUED;
             }
         }

@@ -75,12 +75,15 @@ public final class MinutesTest {
         x.seed(seedFor(new int[] {100, 3, 100, 3}, new int[] {0, 0, -1, 0}));
         Due.due("no men in two minutes", x.minutes(2), 0);
         Due.due("not busy", x.told(0, 5), 0);
+        x.seed(seedFor(new int[] {100, 3, 100, 3}, new int[] {0, 0, -1, 0}));
+        x.minutes(1);
+        Due.due("0 at least", x.told(0, 5), 0);
         x.seed(oneMan(4, 0, 2));
         Due.due("haste 2 is too little", x.minutes(1), 0);
         x.seed(oneMan(4, 0, 3));
         Due.due("haste 3 is enough", x.minutes(1), 1);
         Due.due("300", x.minutes(300) >= 0 ? 1 : 0, 1);
-        Due.due("the minute", x.count(1), 306);
+        Due.due("the minute", x.count(1), 307);
     }
 
     private static void promise11Bound() {
@@ -176,6 +179,16 @@ public final class MinutesTest {
         x.set(2, 3, 20);
         x.minutes(1);
         Due.due("lost", x.street(2), 1);
+        x.rule(2, 1);
+        x.rule(1, 0);
+        x.minutes(30);
+        Due.due("none is busy", x.street(4), 0);
+        x.rule(2, 0);
+        x.set(0, 3, 1);
+        x.seed(oneMan(0, 0, 9));
+        x.minutes(1);
+        Due.due("the first is busy", x.street(4), 1);
+        Due.due("done", x.street(3), 3);
         Due.due("-1", x.street(-1), BAD);
         Due.due("5", x.street(5), BAD);
     }
@@ -204,6 +217,12 @@ public final class MinutesTest {
         x.seed(oneMan(2, 0, 9));
         x.minutes(1);
         Due.due("the first is busy", x.goesTo(2, 9), 1);
+        ShoeCorner one = new ShoeCorner();
+        one.boy(0, 0, 5, 1);
+        one.seed(oneMan(0, 0, 9));
+        one.minutes(1);
+        Due.due("busy for 1 more", one.told(0, 5), 1);
+        Due.due("is busy", one.goesTo(0, 9), NONE);
         int[][] bad = {{-1, 1}, {10, 1}, {0, 0}, {0, 10}};
         for (int[] b : bad) {
             Due.due("bad goesTo", x.goesTo(b[0], b[1]), BAD);

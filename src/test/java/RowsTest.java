@@ -9,6 +9,7 @@ public final class RowsTest {
         promise37ByTheImage();
         promise38Keep();
         promise39Back();
+        promise39BoysAnew();
         promise40Count();
         Due.end("RowsTest");
     }
@@ -165,6 +166,20 @@ public final class RowsTest {
             Due.due("fee", x.fee(), 7);
             Due.due("no shine", x.why(0), NONE);
             x.trim(0);
+        }
+    }
+
+    private static void promise39BoysAnew() {
+        ShoeCorner x = new ShoeCorner();
+        x.keep();
+        x.boy(0, 0, 9, 2);
+        x.seed(MinutesTest.oneMan(0, 0, 9));
+        x.minutes(1);
+        Due.due("busy", x.told(0, 5), 2);
+        x.back();
+        x.boy(0, 0, 9, 2);
+        for (int what = 4; what < 7; what++) {
+            Due.due("a boy at first " + what, x.told(0, what), 0);
         }
     }
 

@@ -7,6 +7,7 @@ public final class TextsTest {
         promise23Trim();
         promise24Faults();
         promise24Values();
+        promise24Anew();
         promise24Full();
         promise25TextTold();
         promise26Why();
@@ -76,6 +77,10 @@ public final class TextsTest {
         fault(" shin r", 1);
         fault("Fee 1", 0);
         fault("feefee 1", 0);
+        fault("feea 1", 0);
+        fault("feez 1", 0);
+        fault("xee 1", 0);
+        fault("fex 1", 0);
         fault("fee fee", 4);
         fault("fee1", 3);
         fault("12 fee", 0);
@@ -144,11 +149,11 @@ public final class TextsTest {
     }
 
     private static void promise24Values() {
-        String[] texts = {"2+3*4", "(2+3)*4", "10-3-2", "100/7/2", "7/0", "(0-7)/2", "1<2", "2<1", "2>1", "1>1", "3=3",
+        String[] texts = {"1<1", "2+3*4", "(2+3)*4", "10-3-2", "100/7/2", "7/0", "(0-7)/2", "1<2", "2<1", "2>1", "1>1", "3=3",
             "3=4", "1+1=2", "5&2", "5&0", "0&5", "0|7", "0|0", "!0", "!5", "!!5", "!1+1", "!(1+1)", "1|0&0", "(1|0)&0",
             "1<2&1", "0-1<0", "2*3/4", "2/4*3", "9999*9999*9999", "(0-5)&1", "0&1|1",
             "0-9999*9999*99*99", "0=0*2", "2-1<1+1&3>2", "!3*5+!0*5", "0010+1"};
-        int[] due = {14, 20, 5, 7, 0, -3, 1, 0, 1, 0, 1, 0, 1, 1, 0, 0, 1, 0, 1, 0, 1, 1, 0, 1, 0, 1, 1, 1, 0,
+        int[] due = {0, 14, 20, 5, 7, 0, -3, 1, 0, 1, 0, 1, 0, 1, 1, 0, 0, 1, 0, 1, 0, 1, 1, 0, 1, 0, 1, 1, 1, 0,
             9999 * 9999 * 9999, 1, 1, -(9999 * 9999 * 99 * 99), 1, 1, 5, 11};
         for (int i = 0; i < texts.length; i++) {
             Due.due(texts[i], value(texts[i]), due[i]);
@@ -157,6 +162,26 @@ public final class TextsTest {
         x.boy(0, 7, 1, 1);
         Due.text(x, "shine (r=3)*100+(d=4)*10+(p=7)");
         Due.due("names of shine", x.shine(0, 3, 4), 111);
+        Due.text(x, "shine 0");
+        Due.due("0 is a number", x.shine(0, 3, 4), 0);
+    }
+
+    /** What an earlier text left, on the tape or of a fault, does not count. */
+    private static void promise24Anew() {
+        ShoeCorner x = new ShoeCorner();
+        Due.due("fault", Due.text(x, "fee 1+2+("), -109);
+        Due.due("behind a fault", Due.text(x, "fee 7"), 0);
+        Due.due("operands", x.textTold(0, 1), 1);
+        Due.due("fee", x.fee(), 7);
+        Due.feed(x, "fee llll");
+        x.trim(5);
+        Due.due("trimmed within a word", x.text(), 1);
+        Due.feed(x, "fee 1234");
+        x.trim(5);
+        Due.due("trimmed within a number", x.text(), 2);
+        Due.due("fee", x.fee(), 1);
+        Due.text(x, "   ");
+        Due.due("an empty tape", x.text(), -100);
     }
 
     private static void promise24Full() {

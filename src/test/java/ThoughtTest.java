@@ -6,6 +6,7 @@ public final class ThoughtTest {
         promise14Behind();
         promise15Best();
         promise15BestLeast();
+        promise15BestEdges();
         promise16BestShare();
         promise17SentAway();
         promise18Dry();
@@ -117,6 +118,26 @@ public final class ThoughtTest {
         Due.due("purses stay", x.sentAway(60, 1), x.street(0));
     }
 
+    /** One man, who pays best at the last of the values that are thought. */
+    private static void promise15BestEdges() {
+        ShoeCorner x = new ShoeCorner();
+        x.boy(3, 0, 50, 1);
+        x.rule(1, 0);
+        x.seed(MinutesTest.oneMan(0, 0, 9));
+        Due.text(x, "shine (r=40)*95");
+        Due.due("rubs 20", x.best(0, 0, 1, 0), 20);
+        Due.due("purse", x.best(0, 0, 1, 1), 51);
+        Due.text(x, "shine (p=9)*95");
+        Due.due("place 9", x.best(0, 1, 1, 0), 9);
+        Due.text(x, "shine 50");
+        Due.due("price 40, though it is 50", x.best(0, 2, 1, 0), 40);
+        Due.due("purse", x.best(0, 2, 1, 1), 40);
+        x.turns(0, 2);
+        x.set(0, 2, 97);
+        Due.due("share 99 of 100", x.bestShare(1, 0), 99);
+        Due.due("owner's", x.bestShare(1, 1), 99);
+    }
+
     private static void promise16BestShare() {
         for (int seed = 1; seed < 6; seed++) {
             for (int n : new int[] {1, 5, 60}) {
@@ -170,6 +191,12 @@ public final class ThoughtTest {
         x.seed(MinutesTest.oneMan(0, 0, 9));
         Due.due("the cheap one again", x.sentAway(1, 0), 1);
         Due.due("the sum with its own", x.sentAway(1, 1), 94);
+        ShoeCorner alone = new ShoeCorner();
+        alone.boy(0, 0, 10, 1);
+        alone.rule(1, 0);
+        alone.seed(MinutesTest.oneMan(0, 0, 9));
+        Due.due("without the one", alone.sentAway(1, 0), 0);
+        Due.due("without the one", alone.sentAway(1, 1), 0);
         ShoeCorner one = street(2);
         int[] before = all(one);
         one.sentAway(60, 0);
@@ -231,6 +258,12 @@ public final class ThoughtTest {
         Due.text(x, "shine r+d+p");
         Due.due("dirt 0, rubs 0 .. 23, quick", x.shone(0, 1), 18 * 19 / 2);
         Due.due("the first quick one", x.shone(0, 0), 1);
+        ShoeCorner quick = new ShoeCorner();
+        quick.boy(1, 0, 1, 1);
+        quick.sheet(0, 0, 1);
+        quick.mark(0, 0, 40);
+        Due.due("as a plain boy's, but he is quick", quick.shone(0, 0), 0);
+        Due.due("as a plain boy's, but he is quick", quick.shone(0, 1), 5);
         int[][] bad = {{-1, 0}, {4, 0}, {0, -1}, {0, 2}};
         for (int[] b : bad) {
             Due.due("bad shone", x.shone(b[0], b[1]), BAD);
