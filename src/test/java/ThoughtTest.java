@@ -129,6 +129,8 @@ public final class ThoughtTest {
         Due.due("purse", x.best(0, 0, 1, 1), 51);
         Due.text(x, "shine (p=9)*95");
         Due.due("place 9", x.best(0, 1, 1, 0), 9);
+        Due.text(x, "shine (p=9)*50+(p>9)*95");
+        Due.due("no place 10", x.best(0, 1, 1, 0), 9);
         Due.text(x, "shine 50");
         Due.due("price 40, though it is 50", x.best(0, 2, 1, 0), 40);
         Due.due("purse", x.best(0, 2, 1, 1), 40);
