@@ -86,6 +86,11 @@ final class EdgesOfTexts {
         Edge.dues("8 of 8, 9 of 8", new int[] {x.trim(8), x.trim(9), x.count(7)}, 8, BAD, 8);
         Edge.dues("6, then 7 of 6", new int[] {x.trim(6), x.trim(7), x.count(7)}, 6, BAD, 6);
         Edge.dues("its first", new int[] {x.text(), x.fee()}, 0, 12);
+        ShoeCorner word = new ShoeCorner();
+        Due.feed(word, "fee llll");
+        Edge.dues("its first, within a word", new int[] {word.trim(5), word.text(), word.textTold(0, 1)}, 5, 0, 1);
+        Due.feed(word, "feeeeeee l");
+        Edge.dues("its first, within a key", new int[] {word.trim(3), word.text()}, 3, -103);
         Edge.same("trim to all", y -> {
             States.some(y);
             y.trim(8);
@@ -147,8 +152,9 @@ final class EdgesOfTexts {
         good("shine 1");
         good("fee 1");
         good("fine 1");
-        for (String word : new String[] {"shin", "shines", "fe", "feee", "fin", "finee", "f", "e", "fees", "shine0x", "boy"}) {
-            fault(word + " 1", word.equals("shine0x") ? 5 : 0);
+        for (String word : new String[] {"shin", "shines", "whine", "hine", "shone", "fe", "feee", "see", "foe", "fed", "fin", "finee",
+            "line", "fane", "fire", "find", "f", "e", "fees", "feea", "feez", "afee", "zfee", "boy"}) {
+            fault(word + " 1", 0);
         }
         for (String first : new String[] {"1", "(", ")", "!", "+", "=", "|", "Shine 1", "FEE 1", "_fee 1", "\tfee 1"}) {
             fault(first, 0);
@@ -475,10 +481,19 @@ final class EdgesOfTexts {
         Edge.refused("textTold(3, 0) of three", BAD, y -> y.textTold(3, 0), States.SOME);
         Edge.refused("textTold(0, 0) of none", BAD, y -> y.textTold(0, 0), States.NEW);
         Edge.changesNothing("textTold(0, 1)", y -> y.textTold(0, 1));
+        Due.text(x, "fee 1+2+3+4+");
+        Due.text(x, "fine p");
+        Edge.due("none of a fault ahead of it", x.textTold(4, 1), 1);
+        ShoeCorner again = new ShoeCorner();
+        again.keep();
+        Due.text(again, "fee 1+2+3+4");
+        again.back();
+        Due.text(again, "fee 1+2");
+        Edge.due("none of one that had its number", again.textTold(0, 1), 2);
         x.keep();
         Due.text(x, "fine 1");
         x.back();
-        Edge.dues("gone with the image", new int[] {x.textTold(4, 0), x.textTold(3, 1)}, BAD, 4);
+        Edge.dues("gone with the image", new int[] {x.textTold(5, 0), x.textTold(4, 1), x.textTold(3, 1)}, BAD, 1, 4);
     }
 
     private static void why() {

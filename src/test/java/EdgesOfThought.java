@@ -279,6 +279,14 @@ final class EdgesOfThought {
         ShoeCorner dry = oneBoyOneMan(0, 0, 10, 1);
         dry.rule(1, 100);
         Edge.due("it would become wet", dry.dry(1), 10);
+        ShoeCorner least = oneBoyOneMan(0, 0, 10, 1);
+        least.seed(MinutesTest.seedFor(new int[] {100, 3, 10, 10, 9}, new int[] {0, 1, 0, 0, 8}));
+        Edge.due("no draw is below 0", least.dry(1), 0);
+        least.rule(1, 1);
+        Edge.due("but one is below 1", least.dry(1), 10);
+        least.rule(2, 1);
+        least.rule(1, 0);
+        Edge.due("nor is it turned from dry, if it were", least.dry(1), 10);
         dry.rule(1, 0);
         dry.minutes(1);
         dry.rule(1, 100);
