@@ -111,6 +111,13 @@ final class EdgesOfTexts {
         Edge.dues("a text, then none", new int[] {Due.text(x, "fee 1"), x.count(7), x.text()}, 0, 0, -100);
         Edge.dues("a fault, then none", new int[] {Due.text(x, "fee !"), x.count(7), x.text()}, -105, 0, -100);
         Edge.dues("what was there does not come again", new int[] {Due.text(x, "fee"), Due.text(x, " 1")}, -103, -101);
+        Edge.dues("nor does what a fault had read", new int[] {Due.text(x, "fee !5 5"), Due.text(x, "fee 7"), x.fee()}, -107, 1, 7);
+        Edge.dues("nor does what a fault had read", new int[] {Due.text(x, "fee 1-2-3-4-"), Due.text(x, "fee 8-1"), x.fee()},
+            -112, 2, 7);
+        x.keep();
+        Due.text(x, "fee !(!5+!6)");
+        x.back();
+        Edge.dues("nor a text that was there", new int[] {Due.text(x, "fee 9"), x.fee()}, 3, 9);
         Edge.same("a fault leaves all but the tape", y -> {
             States.some(y);
             Due.feed(y, "!");
